@@ -6,6 +6,8 @@ public final class BottlesTest {
         clampFull();
         takeOff();
         takeOffKeepsTheOthers();
+        takeOffAndClampAgain();
+        clampWhereAJerkedOneWas();
         bottleWhileOpen();
         bottleShutByMessenger();
         bottleStruckAgain();
@@ -108,6 +110,39 @@ public final class BottlesTest {
         Check.due(5, "bottle(0, 3): it is open", y.bottle(0, 3), 0);
         Check.due(5, "bottle(0, 5): never struck", y.bottle(0, 5), 0);
         Check.due(5, "bottle(0, 13)", y.bottle(0, 13), 0);
+    }
+
+    private static void marks(MessengerCasts x, int... marks) {
+        Check.due(6, "count(5)", x.count(5), marks.length);
+        for (int i = 0; i < marks.length; i++) {
+            Check.due(6, "bottle(" + i + ", 0)", x.bottle(i, 0), marks[i]);
+            Check.due(6, "bottle(" + i + ", 4)", x.bottle(i, 4), 0);
+        }
+        Check.due(6, "bottle(" + marks.length + ", 0)", x.bottle(marks.length, 0), Check.UNKNOWN);
+    }
+
+    private static void takeOffAndClampAgain() {
+        MessengerCasts x = Check.after("b;+5;b;+5;b;+5;b;+5;b;+5;b;+5;b;+5;b;+5;b;+5;b;-45");
+        Check.due(6, "takeOff(8)", x.takeOff(8), 9);
+        marks(x, 0, 5, 10, 15, 20, 25, 30, 35, 45);
+        Check.due(6, "takeOff(0), the lowest of many", x.takeOff(0), 8);
+        Check.due(6, "takeOff(3)", x.takeOff(3), 7);
+        Check.due(6, "takeOff(6), the highest", x.takeOff(6), 6);
+        marks(x, 5, 10, 15, 25, 30, 35);
+        Check.due(5, "perform()", Check.perform(x, "b;+20;b;+20;b;+20;b"), 7);
+        marks(x, 0, 5, 10, 15, 20, 25, 30, 35, 40, 60);
+        Check.due(5, "clamp(true)", x.clamp(true), Check.FULL);
+    }
+
+    private static void clampWhereAJerkedOneWas() {
+        MessengerCasts x = Check.after("m;+201;-200;-1");
+        Check.due(18, "bottle(0, 13)", x.bottle(0, 13), 1);
+        Check.due(6, "takeOff(0)", x.takeOff(0), 0);
+        Check.due(5, "clamp(false)", x.clamp(false), 0);
+        int[] due = {0, 0, 0, 0, 0, 0, -1005, -1005, -1005, -1005, -1005, -1005, -1005, 0};
+        for (int i = 0; i < due.length; i++) {
+            Check.due(5, "bottle(0, " + i + ") of a fresh one", x.bottle(0, i), due[i]);
+        }
     }
 
     private static void bottleWhileOpen() {

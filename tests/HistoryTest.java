@@ -8,6 +8,8 @@ public final class HistoryTest {
         keepAndRestore();
         restoreIsAnAct();
         snapshotStaysAsItWas();
+        undoOfEachAct();
+        allIsBroughtBack();
         Check.finish("HistoryTest");
     }
 
@@ -189,5 +191,106 @@ public final class HistoryTest {
         x.restore();
         Check.due(17, "bottle(1, 3) once more", x.bottle(1, 3), 0);
         Check.due(17, "count(0) once more", x.count(0), 1);
+    }
+
+    private static final int ACTS = 11;
+
+    private static int act(MessengerCasts x, int kind) {
+        switch (kind) {
+            case 0: return x.pay(6);
+            case 1: return x.setSlope(2);
+            case 2: return x.weight(true);
+            case 3: return x.clamp(true);
+            case 4: return x.takeOff(0);
+            case 5: return x.send();
+            case 6: return x.pass(3);
+            case 7: return x.setWater(4, 44, 44);
+            case 8: return x.set(0, 44);
+            case 9: return x.perform();
+            default: return x.restore();
+        }
+    }
+
+    /** The state that is recorded is the one just before the act, not an older one. */
+    private static void undoOfEachAct() {
+        for (int kind = 0; kind < ACTS; kind++) {
+            MessengerCasts x = Check.after("+30;b;-20;!");
+            x.keep();
+            Check.write(x, "+5;.5");
+            x.setSlope(1);
+            int[] before = told(x);
+            Check.due(15, "act " + kind, act(x, kind) >= 0 ? 1 : 0, 1);
+            Check.due(15, "count(17) behind the act " + kind, x.count(17), 3);
+            same("the act " + kind, told(x), before, false);
+            Check.due(15, "undo() of the act " + kind, x.undo(), 2);
+            same("undo() of the act " + kind, told(x), before, true);
+        }
+    }
+
+    /** What is told of three bottles, three messengers, the water, and all counts but those of no state. */
+    private static int[] told(MessengerCasts x) {
+        int[] row = new int[95];
+        int n = 0;
+        for (int i = 0; i < 3; i++) {
+            for (int j = 0; j <= 13; j++) {
+                row[n++] = x.bottle(i, j);
+            }
+            row[n++] = x.messenger(i, 0);
+        }
+        for (int i = 0; i < 10; i++) {
+            row[n++] = x.layer(i, 0);
+            row[n++] = x.layer(i, 1);
+            row[n++] = x.layer(i, 3);
+        }
+        for (int i = 0; i <= 16; i++) {
+            row[n++] = x.count(i);
+        }
+        row[n++] = x.worst();
+        row[n++] = x.quietIn();
+        row[n++] = x.shutIn(0);
+        return row;
+    }
+
+    private static void same(String behind, int[] got, int[] want, boolean isDue) {
+        boolean isSame = true;
+        for (int i = 0; i < want.length; i++) {
+            if (isDue) {
+                Check.due(15, "what is told, place " + i + ", behind " + behind, got[i], want[i]);
+            }
+            isSame = isSame && got[i] == want[i];
+        }
+        Check.due(15, "all the same behind " + behind, isSame ? 1 : 0, isDue ? 1 : 0);
+    }
+
+    private static void allIsBroughtBack() {
+        // One shut by the jerk, one by a messenger; let loose, stopped, gone and taken back are all there.
+        MessengerCasts x = Check.after("+10;!;.2;+10;b;+130;b;+30;m;+210;!;.1;!;.43;!;-1");
+        x.setWater(2, 33, 44);
+        x.set(0, 3);
+        x.pass(2);
+        x.send();
+        int[] some = {10, 11, 12, 13, 14};
+        for (int what : some) {
+            Check.due(15, "count(" + what + ") is not 0", x.count(what) > 0 ? 1 : 0, 1);
+        }
+        Check.due(15, "bottle(0, 13)", x.bottle(0, 13), 1);
+        Check.due(15, "bottle(2, 3)", x.bottle(2, 3), 1);
+        int[] before = told(x);
+        x.keep();
+        Check.perform(x, "-389;/1;.5");
+        x.takeOff(2);
+        x.takeOff(1);
+        x.clamp(true);
+        x.undo();
+        x.undo();
+        x.undo();
+        x.undo();
+        same("four times undo()", told(x), before, true);
+        x.pay(-389);
+        x.takeOff(1);
+        x.weight(true);
+        x.clamp(true);
+        x.restore();
+        same("restore()", told(x), before, true);
     }
 }

@@ -58,6 +58,7 @@ public final class TextsTest {
         fault("m ;", 1);
         fault("b;;b", 2);
         fault("+1000", 4);
+        fault("+1009", 4);
         fault("-1000", 4);
         fault(".1000", 4);
         fault("+999b", 4);
@@ -65,6 +66,7 @@ public final class TextsTest {
         fault("+1x", 2);
         fault("/00", 2);
         fault("/10", 2);
+        fault("/19", 2);
         fault("/61", 2);
         fault("/ 1", 1);
         fault("+01", 1);
