@@ -21,11 +21,12 @@ final class Check {
     }
 
     /** Puts the text in place of the one that was. */
-    static void write(MessengerCasts x, String text) {
-        x.clearText();
+    static int write(MessengerCasts x, String text) {
+        int length = x.clearText();
         for (int i = 0; i < text.length(); i++) {
-            x.type(text.charAt(i));
+            length = x.type(text.charAt(i));
         }
+        return length;
     }
 
     static int perform(MessengerCasts x, String text) {
