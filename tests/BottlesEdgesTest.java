@@ -9,9 +9,11 @@ public final class BottlesEdgesTest {
         promise5AtTheEndsOfTheCable();
         promise5RanksByRisingMarks();
         promise5OpenWithOrWithoutMessenger();
+        promise5OpenInThePlaceOfAShutOne();
         promise6NotInTheWater();
         promise6Unknown();
         promise6OthersMoveUp();
+        promise6RoomForOthers();
         promise6ShutOnes();
         promise18Bottles();
         promise18WhatFromNoughtTo13();
@@ -156,6 +158,42 @@ public final class BottlesEdgesTest {
         }
     }
 
+    /** "It is open as it is clamped": nothing is left of those that were taken off, wherever they were. */
+    private static void promise5OpenInThePlaceOfAShutOne() {
+        for (int taken = 1; taken <= 3; taken++) {
+            for (int lowest = 0; lowest <= 1; lowest++) {
+                // At 0 one shut by the jerk and struck, at 201 one shut and struck again, at 221 an open one.
+                MessengerCasts x = Check.after("m;+201;!;.41;m;+10;!;!;.2;+10;m");
+                int[] shut = {1, 1, 0};
+                int[] struck = {1, 2, 0};
+                for (int i = 0; i < 3; i++) {
+                    Check.due(18, "bottle(" + i + ", 3)", x.bottle(i, 3), shut[i]);
+                    Check.due(18, "bottle(" + i + ", 5)", x.bottle(i, 5), struck[i]);
+                }
+                x.set(1, 999);
+                x.pay(-221);
+                for (int i = 0; i < taken; i++) {
+                    Check.due(6, "takeOff", x.takeOff(lowest == 1 ? 0 : 2 - i), 2 - i);
+                }
+                x.pay(50);
+                int rank = lowest == 1 || taken == 3 ? 0 : 1;
+                Check.due(5, "clamp(false), " + taken + " were taken off", x.clamp(false), rank);
+                int[] due = {50, 0, 0, 0, 0, 0, NONE, NONE, NONE, NONE, NONE, NONE, NONE, 0};
+                for (int i = 0; i < due.length; i++) {
+                    Check.due(5, "bottle(" + rank + ", " + i + ") of a fresh one", x.bottle(rank, i), due[i]);
+                }
+                Check.due(26, "count(5)", x.count(5), 4 - taken);
+                x.undo();
+                x.undo();
+                x.undo();
+                Check.due(15, "count(5) behind undo()", x.count(5), 4 - taken);
+                // The last rank there is then that of the open one, or of the one that was taken off last.
+                int last = lowest == 1 ? 2 : 3 - taken;
+                Check.due(15, "bottle(" + (3 - taken) + ", 5)", x.bottle(3 - taken, 5), struck[last]);
+            }
+        }
+    }
+
     /** "It can be taken off as long as it is not in the water." */
     private static void promise6NotInTheWater() {
         for (int d = -6; d <= 6; d++) {
@@ -208,6 +246,32 @@ public final class BottlesEdgesTest {
                 Check.due(6, "bottle(" + i + ", 4)", x.bottle(i, 4), was % 2);
             }
             Check.due(6, "bottle(9, 0)", x.bottle(9, 0), Check.UNKNOWN);
+        }
+    }
+
+    /** From so many bottles one is taken off, and others are clamped until there are ten. */
+    private static void promise6RoomForOthers() {
+        for (int bottles = 1; bottles <= 10; bottles++) {
+            for (int taken = 0; taken < bottles; taken++) {
+                MessengerCasts x = new MessengerCasts();
+                for (int i = 0; i < bottles; i++) {
+                    x.clamp(i == taken);
+                    x.pay(5);
+                }
+                x.pay(-5 * bottles);
+                Check.due(6, "takeOff(" + taken + ") of " + bottles, x.takeOff(taken), bottles - 1);
+                x.pay(50);
+                for (int i = bottles - 1; i < 10; i++) {
+                    Check.due(5, "clamp(true)", x.clamp(true), i);
+                    x.pay(6);
+                }
+                Check.due(5, "clamp(true) of an eleventh", x.clamp(true), Check.FULL);
+                for (int i = 0; i < 10; i++) {
+                    int mark = i >= bottles - 1 ? 50 + 6 * (i - bottles + 1) : i < taken ? 5 * i : 5 * i + 5;
+                    Check.due(6, "bottle(" + i + ", 0)", x.bottle(i, 0), mark);
+                    Check.due(6, "bottle(" + i + ", 4)", x.bottle(i, 4), i >= bottles - 1 ? 1 : 0);
+                }
+            }
         }
     }
 

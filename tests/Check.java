@@ -6,10 +6,31 @@ final class Check {
     static final int NOT_POSSIBLE = -1004;
     static final int NONE = -1005;
 
+    private static final int LONGEST_TEST_IN_SECONDS = 240;
+
     private static int asked;
     private static int wrong;
 
+    static {
+        watch();
+    }
+
     private Check() {
+    }
+
+    /** A call that does not end is a fault, too: such a test ends with exit code 1 and does not hang. */
+    static void watch() {
+        Thread watcher = new Thread(() -> {
+            try {
+                Thread.sleep(1000L * LONGEST_TEST_IN_SECONDS);
+            } catch (InterruptedException e) {
+                return;
+            }
+            System.out.println("a call did not end in " + LONGEST_TEST_IN_SECONDS + " seconds");
+            Runtime.getRuntime().halt(1);
+        });
+        watcher.setDaemon(true);
+        watcher.start();
     }
 
     static void due(int promise, String call, int got, int want) {

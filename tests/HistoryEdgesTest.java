@@ -12,6 +12,7 @@ public final class HistoryEdgesTest {
         promise15TheOldestIsDropped();
         promise15EachActIsRecordedOnce();
         promise15EachActIsTakenBack();
+        promise15ShutOnesAreBroughtBack();
         promise15UndoIsNoAct();
         promise15WhatIsNoState();
         promise16IsNoAct();
@@ -138,6 +139,53 @@ public final class HistoryEdgesTest {
                     Look.same(15, "behind one " + name, two.and(x -> x.undo()).told(), acted.told(), "count(17)");
                 }
             }
+        }
+    }
+
+    /** What a shut bottle kept is part of a state: others that are shut in its place leave nothing behind. */
+    private static void promise15ShutOnesAreBroughtBack() {
+        // Two shut by the jerk at the slope 2, one by a messenger at the slope 1, in other water.
+        Scene shut = Scene.NEW.cast("m;+101;b;+50;b;/2;+99;-1")
+            .and(x -> x.set(0, 9)).and(x -> x.set(1, 30)).cast("+31;-31").and(x -> x.set(1, 999))
+            .and(x -> x.setWater(0, 33, 44)).cast("!;/1;.99;/3").and(x -> x.keep());
+        MessengerCasts y = shut.play();
+        for (int i = 0; i < 3; i++) {
+            Check.due(15, "bottle(" + i + ", 3)", y.bottle(i, 3), 1);
+            Check.due(15, "bottle(" + i + ", 13)", y.bottle(i, 13), i < 2 ? 1 : 0);
+        }
+        Scene hauled = shut.cast("/5;-249");
+        Scene bare = hauled.and(x -> x.takeOff(0)).and(x -> x.takeOff(1)).and(x -> x.takeOff(0));
+        Check.due(6, "takeOff(0), the last", bare.answer(), 0);
+        Look.same(15, "behind three takeOff and undo()", bare.times(3, x -> x.undo()).told(), hauled.told(), "count(17)");
+        Look.same(17, "behind three takeOff and restore()", bare.and(x -> x.restore()).told(), shut.told(), "count(17)",
+            "count(18)");
+        // Others in their places, shut otherwise.
+        Scene others = bare.cast("/4;m;+300;m;+40;m;+60;m;+9;!;.409;/0");
+        Check.due(13, "perform()", others.answer(), 12);
+        Check.due(8, "count(7)", others.play().count(7), 4);
+        Check.due(20, "layer(3, 3)", others.play().layer(3, 3), 1);
+        Look.same(15, "behind others and undo()", others.times(4, x -> x.undo()).told(), hauled.told(), "count(17)",
+            "count(18)");
+        Look.same(17, "behind others and restore()", others.and(x -> x.restore()).told(), shut.told(), "count(17)",
+            "count(18)");
+        // All ten shut, and brought back one by one.
+        Scene ten = Scenes.tenBottles().and(x -> x.set(1, 1)).and(x -> x.pay(500));
+        for (int i = 0; i < 9; i++) {
+            int metres = i % 2 == 0 ? -20 - i : 25 + i;
+            ten = ten.and(x -> x.pay(metres));
+        }
+        Check.due(15, "count(7)", ten.play().count(7), 10);
+        Scene one = ten;
+        for (int i = 1; i <= 4; i++) {
+            one = one.and(x -> x.undo());
+            Check.due(15, "count(7) behind undo() number " + i, one.play().count(7), 10 - i);
+            for (int j = 0; j < 10 - i; j++) {
+                for (int what = 6; what <= 13; what++) {
+                    Check.due(15, "bottle(" + j + ", " + what + ")", one.play().bottle(j, what),
+                        ten.play().bottle(j, what));
+                }
+            }
+            Check.due(15, "bottle(" + (10 - i) + ", 6), open again", one.play().bottle(10 - i, 6), Check.NONE);
         }
     }
 

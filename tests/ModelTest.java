@@ -12,6 +12,7 @@ public final class ModelTest {
     private static Model y;
 
     public static void main(String[] args) {
+        Check.watch();
         int[] seen = new int[6];
         for (int run = 0; run < RUNS && wrong < 20; run++) {
             x = new MessengerCasts();
