@@ -12,7 +12,7 @@ public final class NothingChangesTest {
 
     public static void main(String[] args) {
         Scene[] scenes = {Scene.NEW, Scenes.rich(), Scenes.lost(), Scenes.hauledIn(), Scenes.tenBottles(),
-            Scenes.twelveMessengers()};
+            Scenes.twelveMessengers(), Scenes.rich().and(x -> x.setSlope(6))};
         for (int i = 0; i < scenes.length; i++) {
             outOfRangeEverywhere(" in scene " + i, scenes[i]);
             readingChangesNothing(" in scene " + i, scenes[i]);
@@ -130,6 +130,16 @@ public final class NothingChangesTest {
             unchanged(23, "shutIn(" + i + ")" + where, scene, y.shutIn(i), x -> x.shutIn(bottle));
             unchanged(18, "bottle(" + i + ", 12)" + where, scene, y.bottle(i, 12), x -> x.bottle(bottle, 12));
             unchanged(20, "layer(" + i + ", 2)" + where, scene, y.layer(i, 2), x -> x.layer(bottle, 2));
+        }
+        for (int what = 0; what <= 1; what++) {
+            int number = what;
+            MessengerCasts y = scene.play();
+            unchanged(14, "stopped(" + what + ")" + where, scene, y.stopped(what), x -> x.stopped(number));
+            unchanged(19, "messenger(0, " + what + ")" + where, scene, y.messenger(0, what), x -> x.messenger(0, number));
+        }
+        for (int what = 0; what <= 18; what += 3) {
+            int number = what;
+            unchanged(26, "count(" + what + ")" + where, scene, scene.play().count(what), x -> x.count(number));
         }
         unchanged(24, "quietIn()" + where, scene, scene.play().quietIn(), x -> x.quietIn());
         unchanged(25, "worst()" + where, scene, scene.play().worst(), x -> x.worst());
