@@ -68,6 +68,23 @@ final class Scene {
         return x;
     }
 
+    /** The two runs are played call by call, each on its own object. */
+    void inTurnWith(Scene other, MessengerCasts mine, MessengerCasts theirs) {
+        for (int i = 0; i < Math.max(calls.length, other.calls.length); i++) {
+            if (i < calls.length) {
+                calls[i].on(mine);
+            }
+            if (i < other.calls.length) {
+                other.calls[i].on(theirs);
+            }
+        }
+    }
+
+    /** How many calls of the object it takes. */
+    int calls() {
+        return cost;
+    }
+
     /** What the last call answers. */
     int answer() {
         MessengerCasts x = new MessengerCasts();
